@@ -365,10 +365,13 @@ public final class NoiseBench {
             return bitOf(callSigns, callSize, i) == 1 ? 1 : -1;
         }
 
-        /** The VOICE of one of the two CODE BITS that memory M gives: half 0 is G's, half 1 is H's. */
-        int codeVoice(int memory, int half) {
-            int seen = memory & (half == 0 ? codeG : codeH);
-            return oddness(seen) == 1 ? strength : -strength;
+        /**
+         * The VOICE of one of the two CODE BITS behind a row of bits: half 0 is G's, half 1 is H's.
+         * M needs no place of its own: G and H see four bits, and these are the row's last.
+         */
+        int codeVoice(long row, int half) {
+            int seeing = half == 0 ? codeG : codeH;
+            return oddness(row & seeing) == 1 ? strength : -strength;
         }
 
         /** VOICE i of THE FRAME; 0 where there is none. */
@@ -382,8 +385,7 @@ public final class NoiseBench {
                 return 0;
             }
             long withTail = mixed << TAIL;
-            int memory = (int) (withTail >> (steps() - 1 - step)) & 15;
-            return codeVoice(memory, behind % 2);
+            return codeVoice(withTail >> (steps() - 1 - step), behind % 2);
         }
     }
 
@@ -493,7 +495,8 @@ public final class NoiseBench {
         void follow(Sender sender, Hearing hearing, int place) {
             begin();
             int spot = place + sender.callSize;
-            for (int t = 0; t < sender.steps(); t++) {
+            int steps = sender.steps();
+            for (int t = 0; t < steps; t++) {
                 if (t <= STEADY_STEP) {
                     tabulate(sender, t);
                 }
@@ -521,17 +524,13 @@ public final class NoiseBench {
         private int dueSample(Sender sender, int t, int window, int v) {
             int sum = 0;
             for (int k = 0; k < guess.length; k++) {
-                sum += guess[k] * dueVoice(sender, t, window, v - k);
+                int u = v - k;
+                int voiced = u < 0
+                    ? sender.sign(sender.callSize + u) * sender.strength
+                    : sender.codeVoice(window >> (t - u / 2), u % 2);
+                sum += guess[k] * voiced;
             }
             return sum;
-        }
-
-        private int dueVoice(Sender sender, int t, int window, int v) {
-            if (v < 0) {
-                return sender.sign(sender.callSize + v) * sender.strength;
-            }
-            int memory = (window >> (t - v / 2)) & 15;
-            return sender.codeVoice(memory, v % 2);
         }
 
         /** One step with its two samples; a step of the tail is not free: its bit is 0, and none of the row. */

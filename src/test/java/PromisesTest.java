@@ -406,6 +406,22 @@ public final class PromisesTest {
         x.call(4, 0);
         x.hear();
         due("15: -4000 at least", x.sample(3), -4000);
+        sampleOfTheMost();
+    }
+
+    /** The last of the most SAMPLES that there can be is a draw alone. */
+    private static void sampleOfTheMost() {
+        NoiseBench x = new NoiseBench();
+        x.bits(-1, 40);
+        x.call(16, 1);
+        x.air(30, 500, 99);
+        x.hear();
+        long z = 99;
+        for (int i = 0; i < 140; i++) {
+            z = (z * 1103515245 + 12345) % (1L << 31);
+        }
+        due("15: sample 139", x.sample(139), z / 65536 % 1001 - 500);
+        due("15: sample 140", x.sample(140), LOW);
     }
 
     private static void least() {
@@ -678,9 +694,23 @@ public final class PromisesTest {
         dueStill("23: nothing else changes", x);
         x.least(1000000);
         due("23: none of them", x.whole(20), -1);
+        wholeAtTheSecond();
         x.clear();
         due("23: no bits, no errors", x.whole(2), 1);
         due("23: no bits, no errors together", x.sweep(2), 0);
+    }
+
+    /** As the shared tests tell it: with these numbers the second sending comes whole, and the first does not. */
+    private static void wholeAtTheSecond() {
+        NoiseBench x = new NoiseBench();
+        x.bits(699050, 20);
+        x.taps(4, 2, 0, 0);
+        x.air(3, 90, 77);
+        due("23: within 1", x.whole(1), -1);
+        due("23: within 2", x.whole(2), 2);
+        due("23: within 20", x.whole(20), 2);
+        x.air(3, 90, 78);
+        due("23: the seed after", x.whole(1), 1);
     }
 
     private static void count() {
