@@ -1,4 +1,7 @@
-/** Each promise of the document, with answers that were worked out by hand from its words. */
+/**
+ * Each promise of the document, with answers that were worked out by hand from its words;
+ * noisy sweeps are held against the object's own hear, find and bring, seed by seed.
+ */
 public final class PromisesTest {
     private static final int LOW = Integer.MIN_VALUE;
     private static final int HIGH = Integer.MAX_VALUE;
