@@ -2,7 +2,7 @@ import java.util.ArrayList;
 import java.util.List;
 
 /** The document's words, followed as plainly as can be and without regard to speed: NoiseBench is held against this. */
-final class Model {
+final class Model implements Bench {
     private static final int LOW = Integer.MIN_VALUE;
     private static final int MOST_ROWS_TRIED = 9;
     private final List<Integer> message = new ArrayList<>();
@@ -34,43 +34,43 @@ final class Model {
         return answer;
     }
 
-    int bits(long w, int n) {
+    @Override public int bits(long w, int n) {
         if (out(n, 1, 40)) return -2;
         if (message.size() + n > 40) return -4;
         for (int i = n - 1; i >= 0; i--) message.add((int) ((w >>> i) % 2 == 0 ? 0 : 1));
         return changed(message.size());
     }
 
-    int clear() {
+    @Override public int clear() {
         int had = message.size();
         message.clear();
         return changed(had);
     }
 
-    int bit(int i) {
+    @Override public int bit(int i) {
         return out(i, 0, message.size() - 1) ? -2 : message.get(i);
     }
 
-    int mask(int m) {
+    @Override public int mask(int m) {
         if (out(m, 0, 127)) return -2;
         mask = m;
         return changed(1);
     }
 
-    int code(int newG, int newH) {
+    @Override public int code(int newG, int newH) {
         if (out(newG, 1, 15) || out(newH, 1, 15)) return -2;
         g = newG;
         h = newH;
         return changed(1);
     }
 
-    int amp(int a) {
+    @Override public int amp(int a) {
         if (out(a, 1, 100)) return -2;
         amp = a;
         return changed(1);
     }
 
-    int call(int n, int signs) {
+    @Override public int call(int n, int signs) {
         if (out(n, 0, 16) || signs < 0 || signs >= Math.pow(2, n)) return -2;
         StringBuilder told = new StringBuilder();
         for (int i = n - 1; i >= 0; i--) told.append(signs / (int) Math.pow(2, i) % 2);
@@ -78,14 +78,14 @@ final class Model {
         return changed(1);
     }
 
-    int taps(int a, int b, int c, int d) {
+    @Override public int taps(int a, int b, int c, int d) {
         int[] wanted = {a, b, c, d};
         for (int t : wanted) if (out(t, -20, 20)) return -2;
         taps = wanted;
         return changed(1);
     }
 
-    int air(int newDelay, int newNoise, int newSeed) {
+    @Override public int air(int newDelay, int newNoise, int newSeed) {
         if (out(newDelay, 0, 30) || out(newNoise, 0, 500)) return -2;
         delay = newDelay;
         noise = newNoise;
@@ -93,7 +93,7 @@ final class Model {
         return changed(1);
     }
 
-    int lose(int a, int n) {
+    @Override public int lose(int a, int n) {
         if (out(a, 0, 200) || out(n, 0, 200)) return -2;
         lostFrom = a;
         lostLength = n;
@@ -147,11 +147,11 @@ final class Model {
         return sum;
     }
 
-    int scrambled(int i) {
+    @Override public int scrambled(int i) {
         return out(i, 0, message.size() - 1) ? -2 : scramble()[i];
     }
 
-    int voice(int i) {
+    @Override public int voice(int i) {
         int[] frame = frameOf(scramble());
         return out(i, 0, frame.length - 1) ? LOW : frame[i];
     }
@@ -183,34 +183,34 @@ final class Model {
         return call.isEmpty() || alike(samples, best) < least ? -1 : best;
     }
 
-    int hear() {
+    @Override public int hear() {
         heard = listen(seed);
         return heard.length;
     }
 
-    int sample(int i) {
+    @Override public int sample(int i) {
         return heard == null || out(i, 0, heard.length - 1) ? LOW : heard[i];
     }
 
-    int least(int v) {
+    @Override public int least(int v) {
         if (out(v, 0, 1000000)) return -2;
         int was = least;
         least = v;
         return was;
     }
 
-    int find() {
+    @Override public int find() {
         if (heard == null) return -3;
         found = seek(heard);
         if (found < 0) row = null;
         return found;
     }
 
-    int likeness(int p) {
+    @Override public int likeness(int p) {
         return heard == null || out(p, 0, delay + 8) ? LOW : alike(heard, p);
     }
 
-    long bring(int a, int b, int c, int d) {
+    @Override public long bring(int a, int b, int c, int d) {
         int[] guess = {a, b, c, d};
         for (int t : guess) if (out(t, -20, 20)) return -2;
         if (found < 0 || message.isEmpty()) return -3;
@@ -288,7 +288,7 @@ final class Model {
         return sum;
     }
 
-    int brought(int way, int i) {
+    @Override public int brought(int way, int i) {
         if (out(way, 0, 1) || out(i, 0, message.size() - 1)) return -2;
         if (row == null) return -3;
         return way == 1 ? row[i] : unscramble(row)[i];
@@ -301,7 +301,7 @@ final class Model {
         return wrong;
     }
 
-    int errors() {
+    @Override public int errors() {
         return row == null ? -3 : errorsOf(row);
     }
 
@@ -316,20 +316,20 @@ final class Model {
         return errorsOf(made);
     }
 
-    int sweep(int k) {
+    @Override public int sweep(int k) {
         if (out(k, 1, 20)) return -2;
         int together = 0;
         for (int j = 0; j < k; j++) together += errorsOfSending(seed + j);
         return together;
     }
 
-    int whole(int k) {
+    @Override public int whole(int k) {
         if (out(k, 1, 20)) return -2;
         for (int j = 1; j <= k; j++) if (errorsOfSending(seed + j - 1) == 0) return j;
         return -1;
     }
 
-    int count(int what) {
+    @Override public int count(int what) {
         switch (what) {
             case 0: return message.size();
             case 1: return frameOf(scramble()).length;
