@@ -1,7 +1,8 @@
 import java.util.function.ToIntFunction;
 
 /**
- * Each sentence of the document that names a boundary case, with a test of its own and answers worked out by hand.
+ * Each sentence of the document that names a boundary case, with a test of its own and answers worked out by hand;
+ * noisy sweeps are held against what the shared tests tell, and against the object's own sweeps of one seed each.
  * (That a refused call changes nothing, in whatever state, is BoundsTest's.)
  */
 public final class EdgesTest {
