@@ -3,11 +3,12 @@ import java.util.Random;
 /** Long runs of drawn calls, each answer held against the model's; the draws are the same in every run. */
 public final class ModelTest {
     private static final int OBJECTS = 500;
-    /** Each step makes some ten calls, so an object stays near the 512 calls that it is promised for. */
     private static final int STEPS = 50;
+    /** The dearest step is a bring: both rows of 40 BITS are asked for, and the state. */
+    private static final int MOST_CALLS_OF_STEP = 1 + 2 * 40 + 6;
     private static final Check check = new Check();
     private final Random random;
-    private final NoiseBench x = new NoiseBench();
+    private final Real x = new Real();
     private final Model model = new Model();
     private final String name;
     /** A run of short messages is held against all rows, one by one. */
@@ -22,9 +23,10 @@ public final class ModelTest {
     public static void main(String[] args) {
         for (int number = 0; number < OBJECTS && check.isClean(); number++) {
             ModelTest run = new ModelTest(number);
-            for (int i = 0; i < STEPS && check.isClean(); i++) {
+            for (int i = 0; i < STEPS && run.x.hasRoomFor(MOST_CALLS_OF_STEP) && check.isClean(); i++) {
                 run.step(i);
             }
+            check.isTrue(run.name + "512 calls at most", run.x.isPromised());
         }
         check.end();
     }

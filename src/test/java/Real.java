@@ -13,6 +13,10 @@ final class Real implements Bench {
         return calls <= MOST_CALLS;
     }
 
+    boolean hasRoomFor(int more) {
+        return calls + more <= MOST_CALLS;
+    }
+
     @Override public int bits(long w, int n) { return next().bits(w, n); }
     @Override public int clear() { return next().clear(); }
     @Override public int bit(int i) { return next().bit(i); }
